@@ -79,7 +79,7 @@ public final class GridMerger {
         boolean isText = reader.read(written);
         tape.clear();
         if (!isText) {
-            return FAULT_AT_START - tape.start;
+            return FAULT_AT_START - tape.start();
         }
         beginChange();
         written.setContent(row, column, reader.kind, reader.number, reader.formula());
@@ -581,8 +581,15 @@ public final class GridMerger {
         }
 
         private void contentAsIn(Grid other, int otherPlace, int place, int column) {
-            setContent(place, column, other.kindAt(otherPlace, column), other.numberAt(otherPlace, column),
-                    other.formulaAt(otherPlace, column));
+            int cell = cellAt(place, column);
+            int otherCell = other.cellAt(otherPlace, column);
+            if (cell == NONE) {
+                return;
+            }
+            boolean isThere = otherCell != NONE;
+            kinds[cell] = isThere ? other.kinds[otherCell] : EMPTY;
+            numbers[cell] = isThere ? other.numbers[otherCell] : 0;
+            formulas[cell] = isThere ? other.formulas[otherCell] : null;
         }
 
         private void rowAsIn(Grid other, int otherPlace, int place) {
@@ -816,14 +823,15 @@ public final class GridMerger {
         }
     }
 
-    /** THE TAPE, and the TOKEN of it that is looked at. */
+    /** THE TAPE, and the TOKENS that were found in it, END behind the last one. */
     private static final class Tape {
         private final int[] bytes = new int[TAPE_SIZE];
         private int size;
         private int next;
-        private int token;
-        private int start;
-        private int figure;
+        private final int[] tokens = new int[TAPE_SIZE + 1];
+        private final int[] starts = new int[TAPE_SIZE + 1];
+        private final int[] figures = new int[TAPE_SIZE + 1];
+        private int at;
 
         private boolean hasRoom(int n) {
             return n <= TAPE_SIZE - size;
@@ -840,25 +848,48 @@ public final class GridMerger {
             size = 0;
         }
 
-        private void rewind() {
-            next = 0;
-            advance();
+        private int token() {
+            return tokens[at];
+        }
+
+        private int figure() {
+            return figures[at];
+        }
+
+        private int start() {
+            return starts[at];
         }
 
         private void advance() {
+            if (at < TAPE_SIZE) {
+                at++;
+            }
+        }
+
+        private void findTokens() {
+            at = 0;
+            next = 0;
+            boolean isMore = true;
+            for (int i = 0; i < tokens.length && isMore; i++) {
+                scanToken(i);
+                isMore = tokens[i] != END;
+            }
+        }
+
+        private void scanToken(int i) {
             while (next < size && isBlank(bytes[next])) {
                 next++;
             }
-            start = next;
-            figure = 0;
+            starts[i] = next;
+            figures[i] = 0;
             if (next >= size) {
-                token = END;
+                tokens[i] = END;
             } else if (isDigit(bytes[next])) {
-                scanNumber();
+                scanNumber(i);
             } else if (isLetter(bytes[next])) {
-                scanWord();
+                scanWord(i);
             } else {
-                token = signOf(bytes[next]);
+                tokens[i] = signOf(bytes[next]);
                 next++;
             }
         }
@@ -875,33 +906,34 @@ public final class GridMerger {
             return v >= 'a' && v <= 'z';
         }
 
-        private void scanNumber() {
+        private void scanNumber(int i) {
             while (next < size && isDigit(bytes[next])) {
-                figure = figure * 10 + bytes[next] - '0';
+                figures[i] = figures[i] * 10 + bytes[next] - '0';
                 next++;
             }
-            token = next - start > MAX_DIGITS ? UNFIT : DIGITS;
+            tokens[i] = next - starts[i] > MAX_DIGITS ? UNFIT : DIGITS;
         }
 
-        private void scanWord() {
+        private void scanWord(int i) {
+            int first = next;
             while (next < size && isLetter(bytes[next])) {
                 next++;
             }
-            if (reads("a") || reads("b") || reads("c")) {
-                token = COLUMN;
-                figure = bytes[start] - 'a';
+            if (next - first == 1 && bytes[first] < 'a' + COLUMNS) {
+                tokens[i] = COLUMN;
+                figures[i] = bytes[first] - 'a';
             } else {
-                token = reads("total") ? TOTAL : reads("most") ? MOST : reads("least") ? LEAST
-                        : reads("many") ? MANY : UNFIT;
+                tokens[i] = reads("total", first) ? TOTAL : reads("most", first) ? MOST
+                        : reads("least", first) ? LEAST : reads("many", first) ? MANY : UNFIT;
             }
         }
 
-        private boolean reads(String word) {
-            if (next - start != word.length()) {
+        private boolean reads(String word, int first) {
+            if (next - first != word.length()) {
                 return false;
             }
             for (int i = 0; i < word.length(); i++) {
-                if (bytes[start + i] != word.charAt(i)) {
+                if (bytes[first + i] != word.charAt(i)) {
                     return false;
                 }
             }
@@ -951,18 +983,18 @@ public final class GridMerger {
             number = 0;
             size = 0;
             ordered = 0;
-            tape.rewind();
-            if (tape.token == END) {
+            tape.findTokens();
+            if (tape.token() == END) {
                 kind = EMPTY;
                 return true;
             }
-            if (tape.token == EQUALS) {
+            if (tape.token() == EQUALS) {
                 kind = FORMULA;
                 tape.advance();
-                return readSum(0) && tape.token == END;
+                return readSum(0) && tape.token() == END;
             }
             kind = NUMBER;
-            return readNumber() && tape.token == END;
+            return readNumber() && tape.token() == END;
         }
 
         private Formula formula() {
@@ -974,14 +1006,14 @@ public final class GridMerger {
         }
 
         private boolean readNumber() {
-            boolean isBelow = tape.token == MINUS;
+            boolean isBelow = tape.token() == MINUS;
             if (isBelow) {
                 tape.advance();
             }
-            if (tape.token != DIGITS) {
+            if (tape.token() != DIGITS) {
                 return false;
             }
-            number = isBelow ? -tape.figure : tape.figure;
+            number = isBelow ? -tape.figure() : tape.figure();
             tape.advance();
             return true;
         }
@@ -990,8 +1022,8 @@ public final class GridMerger {
             if (!readPart(within)) {
                 return false;
             }
-            for (int i = 0; i < TAPE_SIZE && (tape.token == PLUS || tape.token == MINUS); i++) {
-                int sign = keepToken(tape.token, 0, NO_KEY);
+            for (int i = 0; i < TAPE_SIZE && (tape.token() == PLUS || tape.token() == MINUS); i++) {
+                int sign = keepToken(tape.token(), 0, NO_KEY);
                 if (!readPart(within)) {
                     return false;
                 }
@@ -1004,7 +1036,7 @@ public final class GridMerger {
             if (!readOne(within)) {
                 return false;
             }
-            for (int i = 0; i < TAPE_SIZE && tape.token == TIMES; i++) {
+            for (int i = 0; i < TAPE_SIZE && tape.token() == TIMES; i++) {
                 int sign = keepToken(TIMES, 0, NO_KEY);
                 if (!readOne(within)) {
                     return false;
@@ -1015,9 +1047,9 @@ public final class GridMerger {
         }
 
         private boolean readOne(int within) {
-            switch (tape.token) {
+            switch (tape.token()) {
                 case DIGITS:
-                    workOut(keepToken(DIGITS, tape.figure, NO_KEY));
+                    workOut(keepToken(DIGITS, tape.figure(), NO_KEY));
                     return true;
                 case MINUS:
                     return within < MAX_WITHIN && readNegative(within + 1);
@@ -1050,12 +1082,12 @@ public final class GridMerger {
 
         /** Its two REFS stand 2 and 4 TOKENS behind the WORD: there Asking finds them. */
         private boolean readRange() {
-            workOut(keepToken(tape.token, 0, NO_KEY));
+            workOut(keepToken(tape.token(), 0, NO_KEY));
             return readSign(OPEN) && readRef() && readSign(COLON) && readRef() && readSign(CLOSE);
         }
 
         private boolean readSign(int sign) {
-            if (tape.token != sign) {
+            if (tape.token() != sign) {
                 return false;
             }
             keepToken(sign, 0, NO_KEY);
@@ -1063,20 +1095,20 @@ public final class GridMerger {
         }
 
         private boolean readRef() {
-            if (tape.token == HASH) {
+            if (tape.token() == HASH) {
                 keepToken(REF, 0, NO_KEY);
                 return true;
             }
-            int ref = tape.token == DOLLAR ? STAYING_REF : REF;
+            int ref = tape.token() == DOLLAR ? STAYING_REF : REF;
             if (ref == STAYING_REF) {
                 tape.advance();
             }
-            if (tape.token != COLUMN) {
+            if (tape.token() != COLUMN) {
                 return false;
             }
-            int column = tape.figure;
+            int column = tape.figure();
             tape.advance();
-            int key = tape.token == DIGITS ? grid.keyAt(tape.figure - 1) : NO_KEY;
+            int key = tape.token() == DIGITS ? grid.keyAt(tape.figure() - 1) : NO_KEY;
             if (key == NO_KEY) {
                 return false;
             }
@@ -1327,11 +1359,8 @@ public final class GridMerger {
                 merged.contentAsIn(mine, inMine, inMerged, column);
             } else if (base.isAlike(inBase, column, mine, inMine)) {
                 merged.contentAsIn(theirs, inTheirs, inMerged, column);
-            } else if (adds(column)) {
-                merged.setContent(inMerged, column, NUMBER, sumOf(column), null);
             } else {
-                chooseContent(column);
-                clashes.add(CONTENT_CLASH, key, column);
+                mergeChanged(column, areNumbers(column));
             }
         }
 
@@ -1339,22 +1368,20 @@ public final class GridMerger {
             return mine.kindAt(inMine, column) == NUMBER && theirs.kindAt(inTheirs, column) == NUMBER;
         }
 
-        private boolean adds(int column) {
-            return rules.isOf(column, ADDING) && areNumbers(column) && base.kindAt(inBase, column) != FORMULA;
-        }
-
-        private int sumOf(int column) {
-            int sum = mine.numberAt(inMine, column) + theirs.numberAt(inTheirs, column)
-                    - base.numberAt(inBase, column);
-            return rules.isOf(column, CAPPED) ? Math.min(sum, rules.figures[column]) : sum;
-        }
-
-        private void chooseContent(int column) {
-            boolean isTheirsGreater = areNumbers(column)
-                    && theirs.numberAt(inTheirs, column) > mine.numberAt(inMine, column);
+        /** Both are CHANGED to unlike ones. */
+        private void mergeChanged(int column, boolean areNumbers) {
+            int own = mine.numberAt(inMine, column);
+            int other = theirs.numberAt(inTheirs, column);
+            if (areNumbers && rules.isOf(column, ADDING) && base.kindAt(inBase, column) != FORMULA) {
+                int sum = own + other - base.numberAt(inBase, column);
+                int cap = rules.isOf(column, CAPPED) ? rules.figures[column] : Integer.MAX_VALUE;
+                merged.setContent(inMerged, column, NUMBER, Math.min(sum, cap), null);
+                return;
+            }
+            clashes.add(CONTENT_CLASH, key, column);
             if (rules.isOf(column, BACK)) {
                 merged.contentAsIn(base, inBase, inMerged, column);
-            } else if (rules.isOf(column, OTHER) || rules.isOf(column, GREATER) && isTheirsGreater) {
+            } else if (rules.isOf(column, OTHER) || rules.isOf(column, GREATER) && areNumbers && other > own) {
                 merged.contentAsIn(theirs, inTheirs, inMerged, column);
             } else {
                 merged.contentAsIn(mine, inMine, inMerged, column);
