@@ -297,8 +297,7 @@ public final class GridMerger {
             }
             free += found == 0 ? 1 : 0;
         }
-        int shared = greatestDivisor(free, m);
-        return (part == 0 ? free : m) / shared;
+        return inLowestTerms(part, free, m);
     }
 
     // ---- what was told
@@ -481,14 +480,15 @@ public final class GridMerger {
         return bound > 0 ? (draw >>> 9) % bound : 0;
     }
 
-    /** Of part and whole, whole being 1 at least. */
-    private static int greatestDivisor(int part, int whole) {
-        for (int d = whole; d > 1; d--) {
-            if (part % d == 0 && whole % d == 0) {
-                return d;
+    /** Part 0 of a fraction is above its line, part 1 below. */
+    private static int inLowestTerms(int part, int above, int below) {
+        int asked = part == 0 ? above : below;
+        for (int d = below; d > 1; d--) {
+            if (above % d == 0 && below % d == 0) {
+                return asked / d;
             }
         }
-        return 1;
+        return asked;
     }
 
     private int firstOtherwise(Sheet teller, Grid grid, int column) {

@@ -96,12 +96,14 @@ public final class GridsTest {
             "=a9", "=a0000001", "=ab1", "=A1", "=$5", "=$", "=$#", "=$total(a1:a1)", "=(1", "=(1))", "=1 2", "=1+",
             "=1++1", "=*1", "=total", "=total a1", "=total(", "=total(a1", "=total(a1:", "=total(a1:a4)", "=total(a1:b2",
             "=total(1:a1)", "=total(-a1:a1)", "=totals(a1:a1)", "=-----1", "=(((((1)))))", "=-(-(-1))", "=5=5", "5a",
-            "=1/2", "\t5", "=a1:a2", "=()", "=#1", "=1.5", "a1", "=a1b1", "=most(#:a1", "=$a", "= \n 9999999"};
+            "=1/2", "\t5", "=a1:a2", "=()", "=#1", "=1.5", "a1", "=a1b1", "=most(#:a1", "=$a", "= \n 9999999",
+            "=az1", "=d1", "=fost(a1:a1)", "=2*", "=2*3*)", "=-", "=(2*", "=a1+z"};
         int[] places = {0, 2, 0, 0, 1, 2, 1, 0, 1, 2, 2, 3, 2, 2,
             2, 2, 1, 1, 2, 2, 2, 2, 3, 4, 3, 3,
             3, 1, 6, 7, 7, 9, 10, 11, 12,
             7, 7, 1, 5, 5, 5, 2, 1,
-            2, 0, 3, 2, 2, 2, 0, 3, 10, 3, 4};
+            2, 0, 3, 2, 2, 2, 0, 3, 10, 3, 4,
+            1, 1, 1, 3, 5, 2, 4, 4};
         Check.write(x, 0, 0, 0, "77");
         int changes = x.count(6);
         for (int i = 0; i < texts.length; i++) {
@@ -144,12 +146,16 @@ public final class GridsTest {
         }
         due("FULL", x.row(1, 8, 7), -4);
         due("STATE ahead of FULL", x.row(1, 8, 6), -3);
-        Check.write(x, 1, 7, 2, "4");
-        x.note(1, 7, 2, 4);
+        for (int column = 0; column < 3; column++) {
+            Check.write(x, 1, 7, column, "4");
+            x.note(1, 7, column, 4);
+        }
         x.drop(1, 7);
         x.row(1, 7, 8);
-        due("a new ROW is EMPTY", x.told(1, 7, 2, 0), 0);
-        due("a new ROW has no NOTE", x.told(1, 7, 2, 1), 0);
+        for (int column = 0; column < 3; column++) {
+            due("a new ROW is EMPTY", x.told(1, 7, column, 0), 0);
+            due("a new ROW has no NOTE", x.told(1, 7, column, 1), 0);
+        }
     }
 
     private static void drop() {
@@ -332,6 +338,21 @@ public final class GridsTest {
         due("a long chain", x.value(0, 0, 2), 1);
         Check.write(x, 0, 3, 0, "=c1");
         due("a long RING", x.told(0, 2, 1, 3), -6);
+        longestChain();
+    }
+
+    /** All 24 CELLS, each asking the next one amid a SUM. */
+    private static void longestChain() {
+        GridMerger x = rowsOfBase(8);
+        for (int cell = 0; cell < 24; cell++) {
+            String next = "abc".charAt((cell + 1) / 8 % 3) + "" + ((cell + 1) % 8 + 1);
+            Check.write(x, 0, cell % 8, cell / 8, cell == 23 ? "7" : "=1+1*(1+1*(1+1*(1+1*(1+" + next + "))))");
+        }
+        due("the longest chain", x.value(0, 0, 0), 7 + 23 * 5);
+        Check.write(x, 0, 7, 2, "=a1");
+        due("the longest RING", x.told(0, 0, 0, 3), -6);
+        Check.write(x, 0, 7, 2, "=#");
+        due("LOST at its end", x.told(0, 0, 0, 3), -5);
     }
 
     private static void print() {

@@ -300,6 +300,30 @@ public final class MergingTest {
         due("BAD ahead of outside", x.clash(-1, 4), -2);
         due("settle", x.settle(2, 0), 6);
         due("SETTLED", x.clash(2, 3), 1);
+        mostClashes();
+    }
+
+    private static void mostClashes() {
+        GridMerger x = new GridMerger();
+        for (int g = 1; g <= 2; g++) {
+            Check.rows(x, g, 99, 2, 3, 4, 5, 6, 7, 1);
+            for (int cell = 0; cell < 24; cell++) {
+                Check.write(x, g, cell / 3, cell % 3, "" + g);
+                x.note(g, cell / 3, cell % 3, g);
+            }
+        }
+        due("merge", x.merge(), 48);
+        due("the least KEY", x.clash(0, 1), 1);
+        due("the greatest KEY", x.clash(47, 1), 99);
+        due("its column", x.clash(47, 2), 2);
+        due("which", x.clash(47, 0), 3);
+        due("all would be otherwise", x.exchanged(), 24);
+        for (int i = 0; i < 48; i++) {
+            due("settle", x.settle(i, i % 2), 47 - i);
+        }
+        due("take", x.take(), 8);
+        due("CONTENT of MINE", x.value(2, 0, 2), 1);
+        due("NOTE of THEIRS", x.told(1, 0, 2, 1), 2);
     }
 
     private static void clashesEnd() {

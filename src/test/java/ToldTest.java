@@ -160,9 +160,10 @@ public final class ToldTest {
         Check.rows(x, 0, 1, 2, 3, 4, 5, 6, 7);
         x.image();
         for (int round = 0; round < 2; round++) {
-            Check.write(x, 0, 0, 0, "3");
-            x.drop(0, 0);
-            x.drop(0, 0);
+            for (int i = 0; i < 4; i++) {
+                Check.write(x, 0, 0, 0, "3");
+                x.drop(0, 0);
+            }
             due("back", x.back(), 0);
             CHECK.text("KEYS", Check.keys(x, 0), "1 2 3 4 5 6 7");
             for (int i = 5; i >= 0; i--) {
