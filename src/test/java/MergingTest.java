@@ -396,6 +396,7 @@ public final class MergingTest {
             due("note", x.told(3, ten, 2, 1), by == 0 ? 5 : by == 1 ? 2 : 9);
             due("content of the note's CELL stays", x.value(3, ten, 2), 21);
             CHECK.text("without BASE", Check.printed(x, 3, placeOf(x, 30), 1), by == 0 ? "=1" : by == 1 ? "=2" : "");
+            due("VALUE without BASE", x.value(3, placeOf(x, 30), 1), by == 0 ? 1 : by == 1 ? 2 : 0);
             due("it is", x.settle(4, by), -3);
             due("outside", x.settle(7, by), -12);
             due("outside", x.settle(-1, by), -12);
