@@ -296,6 +296,27 @@ public final class ValueEdgesTest {
             x.write(1, 3, 1, "7").is(1);
             x.told(1, 3, 2, 3).is(0);
         });
+        edge(11, "the longest chain, of all 24 CELLS, each asked amid SUMS and PARTS that wait for it: no RING", () -> {
+            Play x = new Play();
+            Edges.eightRows(x, 2);
+            for (int cell = 0; cell < 23; cell++) {
+                x.write(2, cell / 3, cell % 3, "=1+1*(1+1*(1+1*(1+1*(1+1*" + name(cell + 1) + "))))").is(2);
+            }
+            x.write(2, 7, 2, "7").is(1);
+            x.valueIs(2, 0, 0, 7 + 23 * 5).told(2, 0, 0, 3).is(0);
+            x.valueIs(2, 7, 1, 12);
+        });
+        edge(11, "the longest chain through RANGES: no RING", () -> {
+            String[] words = {"total", "most", "least"};
+            Play x = new Play();
+            Edges.eightRows(x, 2);
+            for (int cell = 0; cell < 23; cell++) {
+                String next = name(cell + 1);
+                x.write(2, cell / 3, cell % 3, "=1+" + words[cell % 3] + "(" + next + ":" + next + ")").is(2);
+            }
+            x.write(2, 7, 2, "7").is(1);
+            x.valueIs(2, 0, 0, 7 + 23).told(2, 0, 0, 3).is(0);
+        });
         edge(11, "a RING is none any more, when a CELL of it is otherwise", () -> {
             Play x = grid("=b1", "=a1");
             x.told(0, 0, 0, 3).is(RING);
