@@ -17,6 +17,7 @@ public final class GridMerger {
     private static final int ROW_CLASH = 2, CONTENT_CLASH = 1, NOTE_CLASH = 3;
     private static final int MAX_CLASHES = 2 * CELLS, MAX_CHANGES = 6;
     private static final int MAX_DRAWN = 20, MAX_SEEDS = 8, DRAWN_IN_SEED = 3;
+    private static final int LEAST_INT = -2147483648, GREATEST_INT = 2147483647;
 
     private static final int SHEETS = 4, MAX_ITEMS = 40, SHORTS = 0, INTS = 1;
 
@@ -1179,7 +1180,10 @@ public final class GridMerger {
         private int workOut(Formula formula, int depth) {
             int bottom = height;
             for (int i = 0; i < formula.order.length && wrong == 0; i++) {
-                step(formula, formula.order[i], depth);
+                int at = formula.order[i];
+                if (at >= 0 && at < formula.tokens.length) {
+                    step(formula, at, depth);
+                }
             }
             int found = wrong == 0 && height > bottom ? pop() : 0;
             height = bottom;
@@ -1252,7 +1256,7 @@ public final class GridMerger {
             int left = Math.min(formula.figures[one], formula.figures[two]);
             int right = Math.max(formula.figures[one], formula.figures[two]);
             int word = formula.tokens[at];
-            int found = word == MOST ? Integer.MIN_VALUE : word == LEAST ? Integer.MAX_VALUE : 0;
+            int found = word == MOST ? LEAST_INT : word == LEAST ? GREATEST_INT : 0;
             for (int place = Math.min(onePlace, twoPlace); place <= Math.max(onePlace, twoPlace); place++) {
                 for (int column = left; column <= right && wrong == 0; column++) {
                     found = word == MANY ? found + (grid.kindAt(place, column) == EMPTY ? 0 : 1)
@@ -1374,7 +1378,7 @@ public final class GridMerger {
             int other = theirs.numberAt(inTheirs, column);
             if (areNumbers && rules.isOf(column, ADDING) && base.kindAt(inBase, column) != FORMULA) {
                 int sum = own + other - base.numberAt(inBase, column);
-                int cap = rules.isOf(column, CAPPED) ? rules.figures[column] : Integer.MAX_VALUE;
+                int cap = rules.isOf(column, CAPPED) ? rules.figures[column] : GREATEST_INT;
                 merged.setContent(inMerged, column, NUMBER, Math.min(sum, cap), null);
                 return;
             }

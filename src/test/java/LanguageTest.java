@@ -27,6 +27,10 @@ public final class LanguageTest {
         "\\bObject\\b", "\\bHashMap\\b", "\\bhashCode\\b", "\\btoString\\b", "\"\\s*\\+", "\\+\\s*\"", "\\bpackage\\b",
         "\\bpublic\\s+static\\s+(?!final)", "\\bprotected\\b"};
 
+    /** Rule 4: what is used of the library; NO is as the document's face has it. */
+    private static final Set<String> LIBRARY = Set.of("Arrays.copyOf", "Arrays.fill", "Math.max", "Math.min",
+        "System.arraycopy", "Long.MIN_VALUE");
+
     public static void main(String[] args) throws IOException {
         face();
         for (Class<?> c : classes()) {
@@ -107,6 +111,10 @@ public final class LanguageTest {
             imports.add(m.group(1));
         }
         CHECK.text("imports", imports.toString(), "[java.util.Arrays]");
+        Matcher used = Pattern.compile("(?<![.\\w])[A-Z]\\w*[a-z]\\w*\\.\\w+").matcher(code);
+        while (used.find()) {
+            CHECK.text("of the library", LIBRARY.contains(used.group()) ? "" : used.group(), "");
+        }
         CHECK.due("signs 1 to 127", text.chars().filter(v -> v < 1 || v > 127).count(), 0);
         methodSizes(text);
     }
